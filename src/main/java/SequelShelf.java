@@ -30,8 +30,8 @@ public final class SequelShelf {
     private static final int FAULT_NAME = 3;
     private static final int FAULT_MANY = 4;
 
-    private final Tape tape = new Tape();
-    private final Text text = new Text(tape);
+    private final Text text = new Text();
+    private final Tape tape = text.tape;
     private final Shelf shelf = new Shelf();
     // What may yet be refused is read, judged and drawn here, so that the shelf itself stays.
     private final Shelf spare = new Shelf();
@@ -431,7 +431,7 @@ public final class SequelShelf {
     }
 
     public int atOnceOf(int r) {
-        return r >= 0 && r < MOST_READERS ? handout.given[r] : NONE;
+        return shelf.library.hasReader(r) ? handout.given[r] : NONE;
     }
 
     // ---- SLIPS
@@ -671,14 +671,10 @@ public final class SequelShelf {
         int fault;
         int place;
         private int number;
-        private final Tape tape;
+        final Tape tape = new Tape();
         private int most;
         private int at;
         private int ahead;
-
-        Text(Tape tape) {
-            this.tape = tape;
-        }
 
         void begin(int mostBytes) {
             most = mostBytes;
@@ -1559,7 +1555,7 @@ public final class SequelShelf {
                 } else if (word == Word.OR && top >= 2) {
                     top--;
                     stack[top - 1] |= stack[top];
-                } else {
+                } else if (top < MOST_STEPS) {
                     stack[top] = plainlyTrueOf(i, library, state);
                     top++;
                 }
@@ -1700,8 +1696,10 @@ public final class SequelShelf {
         /** A set and all BOOKS that can come to be READ from it on. */
         int grown(int set) {
             int all = set;
-            for (int i = 0; i < books; i++) {
-                all |= openTo(all);
+            int open = openTo(all);
+            for (int i = 0; i < books && open != 0; i++) {
+                all |= open;
+                open = openTo(all);
             }
             return all;
         }
@@ -1766,13 +1764,20 @@ public final class SequelShelf {
             if (isIn(needed, has)) {
                 done |= putOnWay(has);
             }
-            int most = Integer.bitCount(needed);
-            for (int i = wayLength; i < most; i++) {
-                int open = openTo(done) & needed;
-                if (open != 0) {
-                    done |= putOnWay(Integer.numberOfTrailingZeros(open));
+            int open = openTo(done) & needed;
+            for (int i = 0; i < books && open != 0; i++) {
+                done |= putOnWay(leastOf(open));
+                open = openTo(done) & needed;
+            }
+        }
+
+        private int leastOf(int set) {
+            for (int b = 0; b < books; b++) {
+                if (isIn(set, b)) {
+                    return b;
                 }
             }
+            return NONE;
         }
 
         private int neededFor(int b, int read, int has) {
@@ -1787,6 +1792,7 @@ public final class SequelShelf {
             return needed;
         }
 
+        /** The BOOK as a bit. */
         private int putOnWay(int b) {
             if (wayLength < MOST_BOOKS) {
                 way[wayLength] = b;

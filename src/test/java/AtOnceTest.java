@@ -90,10 +90,15 @@ final class AtOnceTest {
         x.atOnce();
         x.lend(0, 0);
         Check.same("by the latest", x.atOnceOf(0), 0);
-        Check.put(x, "");
+        Check.put(x, "book a 9 0;reader p 9;reader q 9;reader r 9;");
         x.library();
         Check.same("by the latest", x.atOnceOf(1), 0);
+        Check.same("he was none then", x.atOnceOf(2), -1);
+        Check.put(x, "reader p 9;");
+        x.library();
+        Check.same("by the latest", x.atOnceOf(0), 0);
+        Check.same("no such READER any more", x.atOnceOf(1), -1);
         x.atOnce();
-        Check.same("by the latest", x.atOnceOf(1), -1);
+        Check.same("by the latest", x.atOnceOf(0), -1);
     }
 }

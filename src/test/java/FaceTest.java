@@ -57,6 +57,9 @@ final class FaceTest {
         Check.same("without parameters", constructors[0].getParameterCount(), 0);
         for (Class<?> inner : face.getDeclaredClasses()) {
             Check.yes("static: " + inner, Modifier.isStatic(inner.getModifiers()));
+            for (Method m : inner.getDeclaredMethods()) {
+                Check.no("a method of a public one's name: " + m, FACE.contains(" " + m.getName() + "("));
+            }
         }
     }
 

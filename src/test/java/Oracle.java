@@ -872,7 +872,7 @@ final class Oracle {
     }
 
     int atOnceOf(int r) {
-        return r >= 0 && r < 6 ? once[r] : NONE;
+        return person(r) ? once[r] : NONE;
     }
 
     int slip(int r) {
