@@ -431,7 +431,7 @@ public final class SequelShelf {
     }
 
     public int atOnceOf(int r) {
-        return shelf.library.hasReader(r) ? handout.given[r] : NONE;
+        return handout.bookOf(r);
     }
 
     // ---- SLIPS
@@ -1857,7 +1857,7 @@ public final class SequelShelf {
 
     /** Who gets which BOOK AT ONCE. */
     private static final class Handout {
-        final int[] given = new int[MOST_READERS];
+        private final int[] given = new int[MOST_READERS];
         private int readers = 0;
         private final int[] wants = new int[MOST_READERS];
         private final int[] copies = new int[MOST_BOOKS];
@@ -1886,6 +1886,11 @@ public final class SequelShelf {
                 }
             }
             return most;
+        }
+
+        /** By the READERS that there were then: the LIBRARY may be another one by now. */
+        int bookOf(int r) {
+            return r >= 0 && r < readers && r < MOST_READERS ? given[r] : NONE;
         }
 
         /** The least BOOK with which so many behind him still get one, taken; NONE: none. */

@@ -94,11 +94,22 @@ final class AtOnceTest {
         x.library();
         Check.same("by the latest", x.atOnceOf(1), 0);
         Check.same("he was none then", x.atOnceOf(2), -1);
-        Check.put(x, "reader p 9;");
+        Check.put(x, "");
         x.library();
-        Check.same("by the latest", x.atOnceOf(0), 0);
-        Check.same("no such READER any more", x.atOnceOf(1), -1);
+        Check.same("he was one then", x.atOnceOf(0), 0);
+        Check.same("he was one then", x.atOnceOf(1), 0);
+        Check.same("he was none then", x.atOnceOf(2), -1);
+        x.image(0);
+        Check.put(x, "book a 9 3;book b 9 3;reader p 9;reader q 9;reader r 9;");
+        x.library();
+        x.lend(0, 0);
+        x.atOnce();
+        x.restore(0);
+        Check.same("he was not one of them", x.atOnceOf(0), -1);
+        Check.same("he was one then", x.atOnceOf(2), 0);
+        Check.same("no such one", x.atOnceOf(3), -1);
         x.atOnce();
         Check.same("by the latest", x.atOnceOf(0), -1);
+        Check.same("by the latest", x.atOnceOf(2), -1);
     }
 }

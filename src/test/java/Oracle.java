@@ -872,7 +872,7 @@ final class Oracle {
     }
 
     int atOnceOf(int r) {
-        return person(r) ? once[r] : NONE;
+        return r >= 0 && r < once.length ? once[r] : NONE;
     }
 
     int slip(int r) {

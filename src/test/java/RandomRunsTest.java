@@ -221,8 +221,13 @@ final class RandomRunsTest {
         String text = cutTo(widened(spoilt(t.toString(), 4), 400, 8), 940);
         int lives = up(20) == 0 ? up(5) - 2 : up(2);
         put(text);
-        boolean good = due("record(" + lives + ") of '" + text + "'", x.record(lives), o.record(lives))
-                && due("fault()", x.fault(), o.fault()) && due("count(4)", x.count(4), o.count(4));
+        return due("record(" + lives + ") of '" + text + "'", x.record(lives), o.record(lives))
+                && due("fault()", x.fault(), o.fault()) && due("count(4)", x.count(4), o.count(4))
+                && allTold();
+    }
+
+    private boolean allTold() {
+        boolean good = true;
         for (int what = -1; what < 5 && good; what++) {
             good = due("told(" + what + ")", x.told(what), o.told(what));
         }
@@ -277,7 +282,7 @@ final class RandomRunsTest {
     }
 
     private boolean call() {
-        switch (up(40)) {
+        switch (up(42)) {
             case 0: case 1: case 2: case 3: case 4: return act();
             case 5: case 6: case 7: return lendSome();
             case 8: case 9: case 10: return dayOrUndo();
@@ -298,6 +303,7 @@ final class RandomRunsTest {
             case 33: case 34: case 35: return reader();
             case 36: case 37: return bookCall();
             case 38: return count();
+            case 39: case 40: return toldLast();
             default: return now();
         }
     }
@@ -355,17 +361,33 @@ final class RandomRunsTest {
     }
 
     private boolean atOnce() {
-        boolean good = due("atOnce()", x.atOnce(), o.atOnce());
+        return due("atOnce()", x.atOnce(), o.atOnce()) && allAtOnceOf();
+    }
+
+    private boolean allAtOnceOf() {
+        boolean good = true;
         for (int r = -1; r < 7 && good; r++) {
             good = due("atOnceOf(" + r + ")", x.atOnceOf(r), o.atOnceOf(r));
         }
         return good;
     }
 
+    /** What calls told last, asked for at any time: behind acts, another LIBRARY, an image, too. */
+    private boolean toldLast() {
+        return allAtOnceOf() && allWayAt() && allRingAt() && allBytes() && allTold()
+                && due("cutting()", x.cutting(), o.cutting())
+                && due("fitting()", x.fitting(), o.fitting()) && due("ask()", x.ask(), o.ask())
+                && due("fault()", x.fault(), o.fault()) && said();
+    }
+
     private boolean way() {
         int r = person();
         int b = book();
-        boolean good = due("way(" + r + ", " + b + ")", x.way(r, b), o.way(r, b));
+        return due("way(" + r + ", " + b + ")", x.way(r, b), o.way(r, b)) && allWayAt();
+    }
+
+    private boolean allWayAt() {
+        boolean good = true;
         for (int k = -1; k < 9 && good; k++) {
             good = due("wayAt(" + k + ")", x.wayAt(k), o.wayAt(k));
         }
@@ -374,7 +396,11 @@ final class RandomRunsTest {
 
     private boolean ring() {
         int b = book();
-        boolean good = due("ring(" + b + ")", x.ring(b), o.ring(b));
+        return due("ring(" + b + ")", x.ring(b), o.ring(b)) && allRingAt();
+    }
+
+    private boolean allRingAt() {
+        boolean good = true;
         for (int k = -1; k < 9 && good; k++) {
             good = due("ringAt(" + k + ")", x.ringAt(k), o.ringAt(k));
         }
@@ -440,7 +466,11 @@ final class RandomRunsTest {
 
     private boolean slip() {
         int r = person();
-        boolean good = due("slip(" + r + ")", x.slip(r), o.slip(r));
+        return due("slip(" + r + ")", x.slip(r), o.slip(r)) && allBytes();
+    }
+
+    private boolean allBytes() {
+        boolean good = true;
         for (int i = -1; i < 34 && good; i++) {
             good = due("byteAt(" + i + ")", x.byteAt(i), o.byteAt(i));
         }
