@@ -8,13 +8,18 @@ final class ActsTest {
         lend();
         back();
         tell();
+        whyTheLeast();
         forgeAndMend();
         burnAndBuy();
         days();
         fines();
+        oneDay();
+        oneOwed();
+        mostFines();
         lastDay();
         undo();
         undoEach();
+        undoEachAlone();
         refusedActsCostNothing();
         Check.finish();
     }
@@ -116,6 +121,41 @@ final class ActsTest {
         Check.same("a mended one", x.tell(2, 1, 1), 4);
     }
 
+    /** "why not, the least": each one with all that are behind it, too. */
+    private static void whyTheLeast() {
+        SequelShelf x = Check.shelf("book a 9 1;book b 9 1;book c 9 9;after b a;"
+                + "reader p 9;reader q 9;reader r 9;fine 0;");
+        x.forge(1);
+        x.lend(0, 1);
+        x.days(1);
+        x.lend(2, 1);
+        x.days(1);
+        x.mend(1);
+        x.burn(1);
+        x.lend(0, 2);
+        // p and r have READ b, are not FIT for it any more, and no copy of it is in.
+        Check.same("he has one", x.lend(0, 1), 1);
+        x.back(0);
+        Check.same("he has READ it", x.lend(0, 1), 2);
+        Check.same("he is not FIT for it", x.lend(1, 1), 3);
+        Check.same("they are alike, and he has not READ it", x.tell(1, 1, 1), 1);
+        Check.same("they are alike, and he has READ it", x.tell(0, 1, 0), 1);
+        Check.same("he has not READ it, the other one has", x.tell(1, 1, 0), 2);
+        Check.same("the other one has READ it", x.tell(0, 1, 2), 3);
+        Check.same("the other one is not FIT for it", x.tell(0, 1, 1), 4);
+        x.lend(1, 0);
+        x.days(1);
+        Check.same("he is FIT now, no copy is in", x.lend(1, 1), 4);
+        x.buy(1);
+        Check.same("lend", x.lend(1, 1), 0);
+        Check.same("the other one is FIT for it, but has it", x.tell(0, 1, 1), 4);
+        x.back(1);
+        Check.same("tell", x.tell(0, 1, 1), 0);
+        Check.same("AFTER none, not FORGED", x.forge(0), 2);
+        Check.same("forge", x.forge(1), 0);
+        Check.same("it is FORGED", x.forge(1), 1);
+    }
+
     private static void forgeAndMend() {
         SequelShelf x = Check.shelf(LIBRARY);
         Check.same("AFTER none", x.forge(0), 2);
@@ -206,6 +246,75 @@ final class ActsTest {
         Check.same("pages", x.now(6), 20);
     }
 
+    private static int oneDayOf(int fines, int pages, int left, int owes) {
+        SequelShelf x = Check.shelf("book z 99 1;book a " + pages + " 1;reader p 10;fine " + fines + ";");
+        x.lend(0, 0);
+        x.back(0);
+        x.lend(0, 1);
+        Check.same("days", x.days(1), 1);
+        Check.same("left", x.reader(0, 2), left);
+        Check.same("owes", x.reader(0, 3), owes);
+        Check.same("READ at 0", x.reader(0, 4), left == 0 ? 2 : 0);
+        Check.same("he has it until 0", x.reader(0, 1), left == 0 ? -1 : 1);
+        Check.same("the copy is in at 0", x.book(1, 1), left == 0 ? 1 : 0);
+        Check.same("BOOKS READ", x.now(5), left == 0 ? 1 : 0);
+        return x.now(6);
+    }
+
+    /** A PACE of 10 against fines and PAGES that are as many, one less, one more. */
+    private static void oneDay() {
+        Check.same("pages READ", oneDayOf(0, 11, 1, 0), 10);
+        Check.same("pages READ", oneDayOf(0, 10, 0, 0), 10);
+        Check.same("pages READ", oneDayOf(0, 9, 0, 0), 9);
+        Check.same("pages READ", oneDayOf(0, 1, 0, 0), 1);
+        Check.same("pages READ", oneDayOf(1, 9, 0, 0), 10);
+        Check.same("pages READ", oneDayOf(1, 10, 1, 0), 10);
+        Check.same("pages READ", oneDayOf(9, 1, 0, 0), 10);
+        Check.same("pages READ", oneDayOf(9, 2, 1, 0), 10);
+        Check.same("pages READ", oneDayOf(10, 1, 1, 0), 10);
+        Check.same("pages READ", oneDayOf(11, 1, 1, 1), 10);
+        Check.same("pages READ", oneDayOf(30, 99, 99, 20), 10);
+    }
+
+    /** One page of fines is the least for which one is FINED. */
+    private static void oneOwed() {
+        SequelShelf x = Check.shelf("book a 9 2;reader p 1;reader q 2;reader r 1;fine 1;");
+        x.lend(2, 0);
+        x.back(2);
+        Check.same("FINED", x.now(4), 4);
+        x.lend(0, 0);
+        x.back(0);
+        Check.same("FINED, as bits", x.now(4), 5);
+        Check.text("slip", Check.slip(x, 0), "p idle owes 1");
+        Check.sentence(x, "fined", 1, 0);
+        Check.same("said", x.said(-1), 2);
+        Check.same("said", x.said(1), 2);
+        x.days(1);
+        Check.same("FINED no more", x.now(4), 0);
+        Check.text("slip", Check.slip(x, 0), "p idle");
+        Check.same("said", x.said(-1), 0);
+    }
+
+    private static void mostFines() {
+        SequelShelf x = Check.shelf("book a 99 1;reader p 1;reader q 1;fine 14;");
+        for (int times = 1; times <= 9; times++) {
+            x.lend(0, 0);
+            Check.same("back", x.back(0), 0);
+            Check.same("99 at most", x.reader(0, 3), times == 8 || times == 9 ? 99 : 14 * times);
+        }
+        x.days(1);
+        Check.same("98", x.reader(0, 3), 98);
+        x.lend(0, 0);
+        x.back(0);
+        Check.same("99 again", x.reader(0, 3), 99);
+        x = Check.shelf("book a 99 1;reader p 1;fine 11;");
+        for (int times = 1; times <= 9; times++) {
+            x.lend(0, 0);
+            x.back(0);
+        }
+        Check.same("99 without being cut", x.reader(0, 3), 99);
+    }
+
     private static void lastDay() {
         SequelShelf x = Check.shelf(LIBRARY);
         for (int i = 0; i < 6; i++) {
@@ -282,6 +391,43 @@ final class ActsTest {
         Check.sentence(x, "idle", 1, 0);
         Check.same("none of these is undone", x.undo(), more - 1);
         Check.same("the SENTENCE stays", x.said(-1), 3 - x.now(1));
+    }
+
+    /** Each act as the only one that can be undone, so that no other one can have kept what was so. */
+    private static void undoEachAlone() {
+        for (int act = 0; act < 10; act++) {
+            SequelShelf x = Check.shelf("book a 10 1;book b 8 1;book c 99 2;book d 9 1;after b a;after d c;"
+                    + "reader p 5;reader q 7;reader r 30;fine 30;");
+            x.lend(2, 0);
+            x.days(1);
+            x.forge(1);
+            x.lend(0, 1);
+            x.image(0);
+            x.restore(0);
+            String ahead = image(x);
+            Check.same("nothing to undo", x.undo(), -1);
+            Check.yes("act " + act + " is done", oneAct(x, act));
+            Check.no("something changed by act " + act, image(x).equals(ahead));
+            Check.same("undo() of act " + act, x.undo(), 0);
+            Check.text("what is so ahead of act " + act, image(x), ahead);
+            Check.same("no more", x.undo(), -1);
+        }
+    }
+
+    private static boolean oneAct(SequelShelf x, int act) {
+        switch (act) {
+            case 0: return x.lend(1, 2) == 0;
+            case 1: return x.back(0) == 0;
+            case 2: return x.tell(2, 0, 1) == 0;
+            case 3: return x.forge(3) == 0;
+            case 4: return x.mend(1) == 0;
+            case 5: return x.burn(0) == 0;
+            case 6: return x.buy(2) == 0;
+            case 7: return x.days(1) == 1;
+            case 8: return x.drawn(1, 0) == 1;
+            default: Check.put(x, "q lends c;forge d;day 1;p returns;p returns;");
+                return x.record(1) == 4;
+        }
     }
 
     private static String undone(SequelShelf x, String ahead) {

@@ -26,7 +26,61 @@ final class AtOnceTest {
         lessThanAll();
         manyCopies();
         whatStays();
+        for (int wants = 0; wants < 8 * 8 * 8 * 8; wants++) {
+            fourReaders(wants);
+        }
         Check.finish();
+    }
+
+    /** All that four READERS can still want of three BOOKS, with 0 to 2 copies of each. */
+    private static void fourReaders(int wants) {
+        SequelShelf x = Check.shelf("book a 1 1;book b 1 1;book c 1 1;"
+                + "reader p 1;reader q 1;reader r 1;reader s 1;reader t 1;");
+        for (int b = 0; b < 3; b++) {
+            x.lend(0, b);
+            x.days(1);
+            for (int r = 1; r <= 4; r++) {
+                if ((wants >> 3 * (r - 1) >> b & 1) == 0) {
+                    x.tell(0, b, r);
+                }
+            }
+        }
+        int[] best = new int[5];
+        for (int copies = 0; copies < 27; copies++) {
+            int[] in = {copies % 3, copies / 3 % 3, copies / 9};
+            for (int b = 0; b < 3; b++) {
+                while (x.book(b, 1) < in[b] && x.buy(b) == 0) {
+                    Check.yes("bought", x.book(b, 1) > 0);
+                }
+                while (x.book(b, 1) > in[b] && x.burn(b) == 0) {
+                    Check.yes("burnt", x.book(b, 1) < 3);
+                }
+            }
+            best[4] = -1;
+            firstOfTheMost(wants, in, 0, 0, new int[4], best);
+            atOnce(x, best[4], -1, best[0], best[1], best[2], best[3]);
+        }
+    }
+
+    /** Goes through all ways in their order, NONE behind all; best holds the BOOKS, then how many. */
+    private static void firstOfTheMost(int wants, int[] in, int r, int many, int[] way, int[] best) {
+        if (r == 4) {
+            if (many > best[4]) {
+                System.arraycopy(way, 0, best, 0, 4);
+                best[4] = many;
+            }
+            return;
+        }
+        for (int b = 0; b < 3; b++) {
+            if ((wants >> 3 * r >> b & 1) != 0 && in[b] > 0) {
+                in[b]--;
+                way[r] = b;
+                firstOfTheMost(wants, in, r + 1, many + 1, way, best);
+                in[b]++;
+            }
+        }
+        way[r] = -1;
+        firstOfTheMost(wants, in, r + 1, many, way, best);
     }
 
     private static void atOnce(SequelShelf x, int many, int... books) {

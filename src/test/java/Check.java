@@ -123,6 +123,24 @@ final class Check {
         same("mean(" + b + ", 1)", x.mean(b, 1), below);
     }
 
+    /** All that calls which change nothing tell: what is so, and what other calls told last. */
+    static String whole(SequelShelf x) {
+        StringBuilder all = new StringBuilder();
+        for (int i = -1; i < 41; i++) {
+            all.append(x.count(i)).append(' ').append(x.now(i)).append(' ').append(x.said(i)).append(' ');
+            all.append(x.told(i)).append(' ').append(x.wayAt(i)).append(' ').append(x.ringAt(i)).append(' ');
+            all.append(x.atOnceOf(i)).append(' ').append(x.byteAt(i)).append(' ');
+        }
+        for (int i = 0; i < 8; i++) {
+            for (int what = 0; what < 7; what++) {
+                all.append(x.book(i, what)).append(' ');
+                all.append(i < x.count(2) ? x.reader(i, what) : 0).append(' ');
+            }
+        }
+        all.append(x.fault()).append(' ').append(x.cutting()).append(' ');
+        return all.append(x.fitting()).append(' ').append(x.ask()).toString();
+    }
+
     /** The same piece again and again. */
     static String times(int n, String piece) {
         return piece.repeat(n);

@@ -5,10 +5,14 @@ final class DrawsTest {
 
     public static void main(String[] args) {
         drawn();
+        oneDay();
         returned();
+        oneBook();
         withoutBooks();
+        withoutBooksAnyMore();
         notAsTold();
         odds();
+        oneSeed();
         Check.finish();
     }
 
@@ -43,6 +47,32 @@ final class DrawsTest {
         read(x, 4, 4, 7);
     }
 
+    /** The least and the most DAYS of a call; the draws of seeds that are not above 0. */
+    private static void oneDay() {
+        SequelShelf x = Check.shelf(LIBRARY);
+        Check.same("drawn(1, 4)", x.drawn(1, 4), 1);
+        Check.text("p", Check.slip(x, 0), "p has c 3");
+        Check.text("q", Check.slip(x, 1), "q has c 5");
+        Check.text("r", Check.slip(x, 2), "r idle");
+        Check.same("DAY", x.now(0), 1);
+        x.undo();
+        Check.same("drawn(1, 0)", x.drawn(1, 0), 1);
+        Check.text("p", Check.slip(x, 0), "p has a 5");
+        Check.text("q", Check.slip(x, 1), "q idle");
+        x.undo();
+        Check.same("drawn(1, -1)", x.drawn(1, -1), 1);
+        Check.text("p", Check.slip(x, 0), "p has a 5");
+        x.undo();
+        Check.same("drawn(1, 7)", x.drawn(1, 7), 1);
+        Check.text("q", Check.slip(x, 1), "q has c 5");
+        x.undo();
+        Check.same("drawn(60, 5)", x.drawn(60, 5), 60);
+        read(x, 7, 7, 7);
+        Check.same("DAY", x.now(0), 60);
+        Check.same("BOOKS READ", x.now(5), 9);
+        Check.same("pages READ", x.now(6), 79);
+    }
+
     private static void withoutBooks() {
         SequelShelf x = Check.shelf("reader p 5;");
         Check.same("drawn(60, 7)", x.drawn(60, 7), 60);
@@ -50,6 +80,36 @@ final class DrawsTest {
         x = Check.shelf("book a 1 1;");
         Check.same("drawn(60, 7)", x.drawn(60, 7), 60);
         Check.same("in", x.book(0, 1), 1);
+    }
+
+    /** One BOOK is enough for draws, one READER to TELL nobody. */
+    private static void oneBook() {
+        SequelShelf x = Check.shelf("book a 5 1;reader p 2;reader q 3;fine 4;");
+        Check.same("drawn(3, 1)", x.drawn(3, 1), 3);
+        Check.text("p", Check.slip(x, 0), "p has a 3");
+        read(x, 0, 1);
+        Check.same("pages READ", x.now(6), 7);
+        x.undo();
+        Check.same("drawn(3, 3)", x.drawn(3, 3), 3);
+        read(x, 1, 0);
+        Check.same("pages READ", x.now(6), 5);
+        x = Check.shelf("book a 5 1;reader p 2;");
+        Check.same("drawn(60, 1)", x.drawn(60, 1), 60);
+        read(x, 1);
+        Check.same("BOOKS READ", x.now(5), 1);
+    }
+
+    /** "no BOOKS: no draws", also where there were BOOKS in the LIBRARY ahead. */
+    private static void withoutBooksAnyMore() {
+        SequelShelf x = Check.shelf(LIBRARY);
+        x.drawn(20, 1);
+        Check.put(x, "reader p 5;reader q 5;");
+        x.library();
+        Check.same("drawn(60, 1)", x.drawn(60, 1), 60);
+        Check.same("out", x.now(1), 0);
+        Check.same("BOOKS READ", x.now(5), 0);
+        Check.same("pages READ", x.now(6), 0);
+        Check.same("READ by somebody", x.now(3), 0);
     }
 
     private static void notAsTold() {
@@ -90,6 +150,22 @@ final class DrawsTest {
         }
         Check.same("no DAYS are left", x.odds(1, 2, 30, 5), 0);
         Check.same("no DAYS are left", x.odds(0, 0, 30, 5), 30);
+    }
+
+    /** One seed is the least; many are as many ones. */
+    private static void oneSeed() {
+        SequelShelf x = Check.shelf(LIBRARY);
+        int[] due = {1, 0, 1, 0, 1, 0, 0, 1, 1, 1};
+        int sum = 0;
+        for (int i = 0; i < due.length; i++) {
+            Check.same("odds(1, 1, 1, " + (99 + i) + ")", x.odds(1, 1, 1, 99 + i), due[i]);
+            sum += due[i];
+            Check.same("odds(1, 1, " + (i + 1) + ", 99)", x.odds(1, 1, i + 1, 99), sum);
+        }
+        Check.same("odds by 2147483640", x.odds(2, 1, 1, 2147483640), 0);
+        Check.same("odds by the most", x.odds(2, 1, 1, Integer.MAX_VALUE), 1);
+        Check.same("odds by the least", x.odds(2, 1, 1, Integer.MIN_VALUE), 0);
+        Check.same("the seed behind the most is the least", x.odds(2, 1, 2, Integer.MAX_VALUE), 1);
     }
 
     private static void returned() {

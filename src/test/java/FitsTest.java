@@ -3,7 +3,10 @@ final class FitsTest {
     public static void main(String[] args) {
         SequelShelf x = new SequelShelf();
         fits(x, -1, 1, 1);
-        Check.same("the tape is empty then", x.count(4), 0);
+        fits(x, -1, 0, 1);
+        fits(x, -1, 0, 0);
+        Check.same("there are no BOOKS: fitting()", x.fitting(), -1);
+        Check.same("there are no BOOKS: ask()", x.ask(), -1);
         x = Check.shelf("book a 1 1;book b 1 1;book c 1 1;book d 1 1;after b a;");
         Check.same("fitting()", x.fitting(), -1);
         Check.same("ask()", x.ask(), -1);
@@ -52,7 +55,64 @@ final class FitsTest {
         fits(x, 128, 127, 0);
         Check.same("h", x.fitting(), 128);
         Check.same("a halves them", x.ask(), 0);
+        oneBook();
+        anyPairThatIsNotAsTold();
+        fewestAndLeast();
         Check.finish();
+    }
+
+    private static void oneBook() {
+        SequelShelf x = Check.shelf("book a 1 1;");
+        fits(x, 2, 1, 1);
+        Check.same("fitting()", x.fitting(), 0);
+        Check.same("ask()", x.ask(), 0);
+        fits(x, 1, 0, 0);
+        Check.same("fitting()", x.fitting(), 1);
+        Check.same("ask()", x.ask(), 0);
+        fits(x, 0, 1, 0);
+        fits(x, -1, 2, 1);
+    }
+
+    /** The last of the pairs as well as the first, and a byte too many or too few. */
+    private static void anyPairThatIsNotAsTold() {
+        SequelShelf x = Check.shelf("book a 1 1;book b 1 1;book c 1 1;");
+        fits(x, 1, 0, 1, 7, 1);
+        for (int pairs = 1; pairs <= 9; pairs++) {
+            int[] bytes = new int[2 * pairs];
+            for (int i = 0; i < bytes.length; i += 2) {
+                bytes[i] = 7;
+                bytes[i + 1] = 1;
+            }
+            fits(x, pairs < 9 ? 8 : -1, bytes);
+            fits(x, -1, java.util.Arrays.copyOf(bytes, bytes.length - 1));
+            bytes[bytes.length - 1] = 2;
+            fits(x, -1, bytes);
+            bytes[bytes.length - 1] = 1;
+            bytes[bytes.length - 2] = 8;
+            fits(x, -1, bytes);
+            bytes[bytes.length - 2] = 255;
+            fits(x, -1, bytes);
+        }
+        Check.same("of the latest above 0", x.fitting(), 0);
+    }
+
+    private static void fewestAndLeast() {
+        SequelShelf x = Check.shelf("book a 1 1;book b 1 1;book c 1 1;");
+        // Not in {b}, not in {a}: c, ab, ac, bc, abc: ab is less as bits, but c has fewer BOOKS.
+        fits(x, 5, 2, 0, 1, 0);
+        Check.same("fewest BOOKS", x.fitting(), 4);
+        Check.same("a: 3 of 5 at most, as b; c: 4", x.ask(), 0);
+        // Not in {a}: b, ab, c, ac, bc, abc.
+        fits(x, 6, 1, 0);
+        Check.same("of like ones the least", x.fitting(), 2);
+        Check.same("a halves them", x.ask(), 0);
+        fits(x, 7, 0, 0);
+        Check.same("of like ones the least", x.fitting(), 1);
+        fits(x, 2, 4, 1);
+        Check.same("c alone tells them apart", x.ask(), 2);
+        fits(x, 2, 6, 1, 4, 0);
+        Check.same("b is in them", x.fitting(), 2);
+        Check.same("c alone tells them apart", x.ask(), 2);
     }
 
     private static int newLibrary(SequelShelf x) {

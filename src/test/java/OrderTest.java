@@ -4,9 +4,12 @@ final class OrderTest {
         way();
         wayWithABook();
         wayByRead();
+        wayByReadAndHas();
+        wayDays();
         ring();
         ringsOfLikeLength();
         cut();
+        cutOfEight();
         deep();
         mean();
         Check.finish();
@@ -113,6 +116,44 @@ final class OrderTest {
         Check.same("d: 70 and 7 by 20", x.way(0, 3), 4);
     }
 
+    /** What he has READ and what he has count together for what comes then. */
+    private static void wayByReadAndHas() {
+        SequelShelf x = Check.shelf(books(4) + afters("ca", "cb", "dc") + "reader p 10;");
+        x.lend(0, 0);
+        x.days(1);
+        x.lend(0, 1);
+        x.days(1);
+        Check.same("b (10 left), c 30", x.way(0, 2), 4);
+        wayIs(x, 1, 2);
+        Check.same("b (10 left), c 30, d 40", x.way(0, 3), 8);
+        wayIs(x, 1, 2, 3);
+        Check.same("a is READ", x.way(0, 0), 0);
+        wayIs(x);
+        Check.same("the one that he has", x.way(0, 1), 1);
+        wayIs(x, 1);
+    }
+
+    /** DAYS, "cut up": a rest is a whole DAY, by the least PACE and the most. */
+    private static void wayDays() {
+        SequelShelf x = Check.shelf("book a 29 1;book b 30 1;book c 31 1;book d 60 1;book e 61 1;book f 1 1;"
+                + "book g 99 1;reader p 1;reader q 30;reader r 29;fine 1;");
+        int[] by30 = {1, 1, 2, 2, 3, 1, 4};
+        int[] by29 = {1, 2, 2, 3, 3, 1, 4};
+        for (int b = 0; b < 7; b++) {
+            Check.same("by 1", x.way(0, b), x.book(b, 0));
+            Check.same("by 30", x.way(1, b), by30[b]);
+            Check.same("by 29", x.way(2, b), by29[b]);
+        }
+        x.lend(1, 1);
+        x.back(1);
+        Check.same("1 and 29", x.way(1, 0), 1);
+        Check.same("1 and 30", x.way(1, 1), 2);
+        x.lend(1, 0);
+        Check.same("1, 29 and 30", x.way(1, 1), 2);
+        Check.same("1, 29 and 31", x.way(1, 2), 3);
+        wayIs(x, 2);
+    }
+
     private static void ring() {
         SequelShelf x = Check.shelf(books(8) + afters("ab", "bc", "ca", "da", "ef", "fe", "fa", "gh", "hg", "gd"));
         ringIs(x);
@@ -166,6 +207,27 @@ final class OrderTest {
         Check.same("all but one", x.cut(), 3);
         Check.same("the least as bits", x.cutting(), 7);
         Check.same("without BOOKS", new SequelShelf().cut(), 0);
+    }
+
+    /** Four RINGS of two, and one of eight. */
+    private static void cutOfEight() {
+        SequelShelf x = Check.shelf(books(8) + afters("ab", "ba", "cd", "dc", "ef", "fe", "gh", "hg"));
+        Check.same("cut()", x.cut(), 4);
+        Check.same("the first of each", x.cutting(), 0b01010101);
+        x.forge(0);
+        x.forge(7);
+        Check.same("cut()", x.cut(), 2);
+        Check.same("those that are FORGED are not told again", x.cutting(), 0b00010100);
+        x = Check.shelf(books(8) + afters("ah", "hg", "gf", "fe", "ed", "dc", "cb", "ba"));
+        Check.same("cut()", x.cut(), 1);
+        Check.same("the first", x.cutting(), 1);
+        x = Check.shelf(books(8) + afters("gh", "hg"));
+        Check.same("cut()", x.cut(), 1);
+        Check.same("of the last two the first", x.cutting(), 64);
+        // Two RINGS meet at h alone: the last BOOK is less than two of the others.
+        x = Check.shelf(books(8) + afters("ah", "ha", "bh", "hb"));
+        Check.same("cut()", x.cut(), 1);
+        Check.same("h", x.cutting(), 128);
     }
 
     private static void deep() {

@@ -6,6 +6,8 @@ final class RecordTest {
     public static void main(String[] args) {
         lives();
         whys();
+        lastLine();
+        readByTheFirst();
         days();
         faults();
         tooMany();
@@ -82,6 +84,39 @@ final class RecordTest {
         why("burn a;burn a;", 1, 51);
         why("burn c;buy c;buy c;", 2, 61);
         why("buy a;burn a;", -1, 0);
+    }
+
+    /** The last of 40 LINES is WRONG; 39 are lived, and undone together. */
+    private static void lastLine() {
+        SequelShelf x = Check.shelf(LIBRARY);
+        String text = Check.times(39, "day 1;") + "p returns;";
+        Check.record(x, text, 0, 39, 0);
+        told(x, 11, 39, 39, 0);
+        Check.same("all stays", x.now(0), 0);
+        Check.record(x, text, 1, 39, 0);
+        told(x, 11, 39, 39, 0);
+        Check.same("lived", x.now(0), 39);
+        Check.same("undo()", x.undo(), 0);
+        Check.same("undone", x.now(0), 0);
+        Check.same("undo()", x.undo(), -1);
+    }
+
+    private static void readByTheFirst() {
+        SequelShelf x = Check.shelf(LIBRARY);
+        Check.record(x, "p lends a;day 2;", 0, -1, 0);
+        told(x, 0, 2, 2, 1);
+        Check.record(x, "p lends a;q lends c;day 1;p returns;day 1;", 0, -1, 0);
+        told(x, 0, 5, 2, 4);
+        Check.record(x, "p lends a;day 2;p lends c;day 2;p lends b;day 2;", 0, -1, 0);
+        told(x, 0, 6, 6, 7);
+        Check.record(x, "", 0, -1, 0);
+        told(x, 0, 0, 0, 0);
+        x.lend(0, 0);
+        x.days(2);
+        Check.same("READ by somebody", x.now(3), 1);
+        Check.record(x, "", 1, -1, 0);
+        told(x, 0, 0, 2, 1);
+        Check.same("a RECORD without LINES is no act", x.undo(), 1);
     }
 
     private static void days() {

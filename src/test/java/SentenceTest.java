@@ -7,6 +7,7 @@ final class SentenceTest {
         said();
         joined();
         counted();
+        everyOneCounts();
         within();
         faults();
         tooLong();
@@ -112,6 +113,21 @@ final class SentenceTest {
         Check.same("the latest stays", x.said(-1), 1);
     }
 
+    /** Of 20 ONES the last one is judged as the first is. */
+    private static void everyOneCounts() {
+        SequelShelf x = shelf();
+        for (int at = 0; at < 20; at++) {
+            String or = Check.times(at, "owes=9 or ") + "has a" + Check.times(19 - at, " or owes=9");
+            is(x, or, 20, 2);
+            String and = Check.times(at, "has a and ") + "fined" + Check.times(19 - at, " and has a");
+            is(x, and, 20);
+        }
+        is(x, Check.times(19, "has a and ") + "has a", 20, 2);
+        is(x, Check.times(9, "not idle and ") + "not has a", 20, 3);
+        is(x, Check.times(9, "(fined)or ") + "(has a)", 20, 0, 2);
+        is(x, "(" + Check.times(18, "fined or ") + "has a)", 20, 0, 2);
+    }
+
     private static void within() {
         SequelShelf x = shelf();
         is(x, Check.times(7, "not ") + "idle", 8, 2, 3);
@@ -162,6 +178,10 @@ final class SentenceTest {
         Check.sentence(x, "pace <= 5", -7, 1);
         Check.sentence(x, "pace = 1000", -8, 1);
         Check.sentence(x, "pace = 5 6", -10, 1);
+        Check.sentence(x, "pace = and x", -8, 1);
+        Check.sentence(x, "pace = or pace = 1000", -8, 1);
+        Check.sentence(x, "has zz and has", -5, 3);
+        Check.sentence(x, "has and zz", -5, 1);
         Check.sentence(x, "idle5", -1, 1);
         Check.sentence(x, "idle and fined.", -15, 1);
         Check.sentence(x, "Idle", -1, 1);

@@ -34,6 +34,25 @@ final class SlipTest {
         Check.put(x, "");
         x.library();
         Check.same("a new LIBRARY leaves it", x.byteAt(2), 'i');
+        digits();
         Check.finish();
+    }
+
+    /** Numbers of one and of two digits, down to the last page of both. */
+    private static void digits() {
+        SequelShelf x = Check.shelf("book bb 12 1;reader pp 1;fine 11;");
+        x.lend(0, 0);
+        x.back(0);
+        x.lend(0, 0);
+        for (int owes = 11; owes > 0; owes--) {
+            Check.text("slip(0)", Check.slip(x, 0), "pp has bb 12 owes " + owes);
+            x.days(1);
+        }
+        for (int left = 12; left > 0; left--) {
+            Check.text("slip(0)", Check.slip(x, 0), "pp has bb " + left);
+            x.days(1);
+        }
+        Check.text("slip(0)", Check.slip(x, 0), "pp idle");
+        Check.same("how many bytes", x.slip(0), 7);
     }
 }

@@ -7,12 +7,17 @@ final class TextTest {
         newObject();
         tape();
         goodLibraries();
+        everyByte();
         tokens();
         numbers();
         names();
         tooMany();
         tooLong();
+        firstOfMany();
         whatANewLibraryIs();
+        aBookThatIsOut();
+        smallerLibrary();
+        fullLibrary();
         whatStays();
         Check.finish();
     }
@@ -27,7 +32,9 @@ final class TextTest {
         Check.same("count(5)", x.count(5), -1);
         Check.same("count(-1)", x.count(-1), -1);
         Check.same("fault()", x.fault(), 0);
-        Check.same("now(0)", x.now(0), 0);
+        for (int what = 0; what < 8; what++) {
+            Check.same("now(" + what + ")", x.now(what), 0);
+        }
         Check.same("undo()", x.undo(), -1);
         Check.same("wayAt(0)", x.wayAt(0), -1);
         Check.same("ringAt(0)", x.ringAt(0), -1);
@@ -42,6 +49,21 @@ final class TextTest {
         Check.same("said(-1)", x.said(-1), -1);
         Check.no("restore(0)", x.restore(0));
         Check.no("restore(1)", x.restore(1));
+        Check.same("the tape is empty: library()", x.library(), 0);
+        x = new SequelShelf();
+        Check.same("the tape is empty: record()", x.record(0), -1);
+        x = new SequelShelf();
+        Check.same("the tape is empty: sentence()", x.sentence(), -1);
+        x = new SequelShelf();
+        Check.same("DAYS go by", x.days(60), 60);
+        Check.same("DAYS go by", x.drawn(1, 1), 1);
+        Check.same("undo()", x.undo(), 1);
+        Check.same("undo()", x.undo(), 0);
+        Check.same("undo()", x.undo(), -1);
+        Check.same("DAY", x.now(0), 0);
+        Check.same("cut()", x.cut(), 0);
+        Check.same("cutting()", x.cutting(), 0);
+        Check.same("atOnce()", x.atOnce(), 0);
     }
 
     private static void tape() {
@@ -103,6 +125,26 @@ final class TextTest {
         Check.same("after", x.book(0, 4), 2);
         Check.same("after", x.book(1, 4), 1);
         Check.same("fine without one told", x.count(3), 5);
+    }
+
+    /** Each byte alone, and behind a digit: "what is not as told is no TOKEN". */
+    private static void everyByte() {
+        SequelShelf x = new SequelShelf();
+        for (int value = 0; value < 256; value++) {
+            boolean blank = value == 32 || value == 10;
+            boolean digit = value >= '0' && value <= '9';
+            boolean letter = value >= 'a' && value <= 'z';
+            byte[] text = {(byte) value};
+            Check.put(x, text);
+            Check.same("library() of byte " + value, x.library(), blank ? 0 : -1);
+            Check.same("fault() of byte " + value, x.fault(), blank ? 0 : 1);
+            text = "fine 1 ;".getBytes();
+            text[6] = (byte) value;
+            Check.put(x, text);
+            Check.same("library() of fine 1 and byte " + value, x.library(),
+                    blank || digit ? 1 : letter ? -1 - 5 : value == ';' ? -1 - 7 : -1 - 6);
+            Check.same("fault() of fine 1 and byte " + value, x.fault(), blank || digit ? 0 : 1);
+        }
     }
 
     private static void tokens() {
@@ -231,6 +273,28 @@ final class TextTest {
         Check.library(x, Check.times(888, " ") + "reader aa 09;", -901, 1);
     }
 
+    /** "the first along the text": of two FAULTS the one that is ahead, whatever its kind. */
+    private static void firstOfMany() {
+        SequelShelf x = new SequelShelf();
+        Check.library(x, "book a 100 10;", -8, 2);
+        Check.library(x, "book a 1 1;reader a 31;", -19, 3);
+        Check.library(x, "book a 1 1;reader a 1;after a a;", -19, 3);
+        Check.library(x, "fine 5;fine 31;book", -8, 3);
+        Check.library(x, "fine 31;fine 5;", -6, 2);
+        Check.library(x, "book a 1 1 book b 100 1;", -12, 1);
+        Check.library(x, "after x y;", -7, 3);
+        Check.library(x, "book a 1 1;after a x y;", -20, 3);
+        Check.library(x, "book a 1 1;after x a.", -18, 3);
+        String eight = "";
+        for (int i = 0; i < 8; i++) {
+            eight += "book " + (char) ('a' + i) + " 1 1;";
+        }
+        Check.library(x, eight + "book a 100 10 #", -89, 4);
+        Check.library(x, eight + "fine 31;book i 1 1;", -94, 2);
+        Check.library(x, eight + "fine 3;;book i 1 1;", -96, 1);
+        Check.library(x, eight + "book i 1 1;" + Check.times(820, " "), -89, 4);
+    }
+
     private static void whatANewLibraryIs() {
         SequelShelf x = Check.shelf("book a 5 2;book b 5 2;after b a;reader p 5;reader q 1;");
         x.lend(0, 0);
@@ -249,6 +313,115 @@ final class TextTest {
         Check.same("READ", x.reader(0, 4), 0);
         Check.same("no SENTENCE", x.said(-1), -1);
         Check.same("nothing to undo", x.undo(), -1);
+    }
+
+    /** "all copies in": a READER of the same number has none in a new LIBRARY. */
+    private static void aBookThatIsOut() {
+        SequelShelf x = Check.shelf("book a 50 1;book b 50 2;after b a;reader p 5;reader q 1;");
+        x.lend(0, 0);
+        x.forge(1);
+        x.lend(1, 1);
+        x.days(1);
+        Check.library(x, "book a 50 1;book b 50 2;reader p 5;reader q 1;", 4, 0);
+        for (int r = 0; r < 2; r++) {
+            Check.same("no BOOK", x.reader(r, 1), -1);
+            Check.same("nothing left", x.reader(r, 2), 0);
+            Check.same("nothing READ", x.reader(r, 4), 0);
+            Check.same("both can be LENT", x.reader(r, 5), 3);
+            Check.same("out", x.book(r, 2), 0);
+            Check.same("in", x.book(r, 1), r + 1);
+            Check.same("FORGED", x.book(r, 3), 0);
+            Check.same("AFTER", x.book(r, 4), 0);
+            Check.same("READ by", x.book(r, 5), 0);
+        }
+        Check.same("pages READ so far", x.now(6), 0);
+        Check.same("lend", x.lend(0, 0), 0);
+        Check.library(x, "", 0, 0);
+        Check.same("out", x.now(1), 0);
+    }
+
+    /** What the LIBRARY ahead had more of is nowhere in this one. */
+    private static void smallerLibrary() {
+        SequelShelf x = Check.shelf("book a 9 9;book b 9 9;book c 9 9;after b c;after c b;"
+                + "reader p 9;reader q 9;reader r 9;fine 9;");
+        x.lend(2, 0);
+        x.days(1);
+        x.lend(2, 0);
+        x.forge(2);
+        x.lend(2, 2);
+        x.back(2);
+        Check.library(x, "book b 1 1;reader q 1;", 2, 0);
+        Check.same("'after'", x.count(1), 0);
+        Check.same("'fine'", x.count(3), 5);
+        Check.same("AFTER", x.book(0, 4), 0);
+        Check.same("can be LENT", x.reader(0, 5), 1);
+        Check.same("EVER", x.reader(0, 6), 1);
+        Check.same("RINGS", x.now(7), 0);
+        Check.same("FINED", x.now(4), 0);
+        Check.same("cut()", x.cut(), 0);
+        Check.same("atOnce()", x.atOnce(), 1);
+        Check.same("atOnceOf(1)", x.atOnceOf(1), -1);
+        Check.sentence(x, "has a", -1 - 4, 3);
+        Check.sentence(x, "has b", 1, 0);
+        Check.same("said(-1)", x.said(-1), 0);
+        Check.record(x, "r lends b;", 0, -2, 3);
+        Check.record(x, "q lends c;", 0, -2 - 8, 3);
+        Check.record(x, "q lends b;day 1;", 0, -1, 0);
+        Check.same("told(3)", x.told(3), 1);
+        Check.library(x, "reader q 1;", 1, 0);
+        Check.same("done of no BOOKS", said(x, "done"), 1);
+        Check.same("can be LENT", x.reader(0, 5), 0);
+        Check.same("EVER", x.reader(0, 6), 0);
+        Check.same("atOnce()", x.atOnce(), 0);
+    }
+
+    private static int said(SequelShelf x, String sentence) {
+        Check.sentence(x, sentence, 1, 0);
+        return x.said(-1);
+    }
+
+    /** As many as there may be of each sort: the last ones are as good as the first. */
+    private static void fullLibrary() {
+        StringBuilder text = new StringBuilder();
+        for (int b = 0; b < 8; b++) {
+            text.append("book ").append((char) ('a' + b)).append(" 30 9;");
+        }
+        for (int r = 0; r < 6; r++) {
+            text.append("reader ").append((char) ('p' + r)).append(" 30;");
+        }
+        text.append("after h g;after g h;");
+        SequelShelf x = new SequelShelf();
+        Check.library(x, text.toString(), 16, 0);
+        Check.same("can be LENT", x.reader(5, 5), 63);
+        Check.same("RINGS", x.now(7), 192);
+        Check.same("ring(7)", x.ring(7), 2);
+        Check.same("ringAt(1)", x.ringAt(1), 6);
+        Check.same("forge", x.forge(7), 0);
+        Check.same("FORGED", x.now(2), 128);
+        Check.same("can be LENT", x.reader(5, 5), 191);
+        Check.same("EVER", x.reader(5, 6), 255);
+        Check.same("atOnce()", x.atOnce(), 6);
+        Check.same("atOnceOf(5)", x.atOnceOf(5), 0);
+        Check.same("way(5, 6)", x.way(5, 6), 2);
+        Check.same("wayAt(0)", x.wayAt(0), 7);
+        Check.same("lend", x.lend(5, 7), 0);
+        Check.text("slip(5)", Check.slip(x, 5), "u has h 30");
+        Check.same("out", x.book(7, 2), 1);
+        Check.same("days", x.days(1), 1);
+        Check.same("READ", x.reader(5, 4), 128);
+        Check.same("READ by", x.book(7, 5), 32);
+        Check.same("READ by somebody", x.now(3), 128);
+        Check.same("tell", x.tell(5, 7, 0), 0);
+        Check.same("READ by", x.book(7, 5), 33);
+        Check.same("lend", x.lend(5, 6), 0);
+        Check.same("back", x.back(5), 0);
+        Check.same("FINED", x.now(4), 32);
+        Check.same("said", said(x, "fined"), 1);
+        Check.same("said(0)", x.said(0), 5);
+        Check.same("odds", x.odds(5, 7, 30, 1), 30);
+        Check.mean(x, 7, 30, 1);
+        Check.mean(x, 6, 30, 1);
+        Check.same("deep(6)", x.deep(6), 1);
     }
 
     private static void whatStays() {
