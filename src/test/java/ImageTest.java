@@ -5,6 +5,7 @@ final class ImageTest {
     public static void main(String[] args) {
         places();
         kept();
+        keptAgain();
         otherLibrary();
         whatStays();
         Check.finish();
@@ -60,6 +61,34 @@ final class ImageTest {
         Check.same("what came later is not in it", x.reader(0, 1), -1);
         x.lend(0, 0);
         Check.same("acts can be undone again", x.undo(), 0);
+    }
+
+    /** A place keeps what came last into it, and the other place what it had. */
+    private static void keptAgain() {
+        SequelShelf x = Check.shelf(LIBRARY);
+        Check.yes("image(0)", x.image(0));
+        x.days(1);
+        Check.yes("image(1)", x.image(1));
+        x.days(1);
+        Check.yes("image(0) again", x.image(0));
+        x.days(1);
+        Check.sentence(x, "idle", 1, 0);
+        Check.yes("restore(0)", x.restore(0));
+        Check.same("DAY", x.now(0), 2);
+        Check.same("no SENTENCE was kept", x.said(-1), -1);
+        Check.yes("restore(1)", x.restore(1));
+        Check.same("DAY", x.now(0), 1);
+        x.days(1);
+        x.image(0);
+        x.undo();
+        Check.same("what is undone is so no more", x.now(0), 1);
+        x.restore(0);
+        Check.same("but it was kept", x.now(0), 2);
+        Check.same("nothing can be undone", x.undo(), -1);
+        Check.library(x, "reader y 1;", 1, 0);
+        Check.yes("a new LIBRARY leaves the places", x.restore(1));
+        Check.same("DAY", x.now(0), 1);
+        Check.same("READERS", x.count(2), 2);
     }
 
     private static void otherLibrary() {

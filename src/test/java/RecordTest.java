@@ -33,6 +33,10 @@ final class RecordTest {
         Check.same("another lives", x.record(-1), -1000);
         Check.same("the tape stays", x.count(4), 6);
         Check.same("told(0)", x.told(0), -1);
+        Check.same("the tape is a RECORD still", x.record(1), -1);
+        Check.same("told(1)", x.told(1), 1);
+        Check.same("DAY", x.now(0), 1);
+        x = Check.shelf(LIBRARY);
         Check.record(x, "", 0, -1, 0);
         told(x, 0, 0, 0, 0);
         Check.record(x, "q lends a; day 1;\nq tells a p;p lends b;", 0, -1, 0);

@@ -6,6 +6,7 @@ final class TextTest {
     public static void main(String[] args) {
         newObject();
         tape();
+        tapeCutOff();
         goodLibraries();
         everyByte();
         tokens();
@@ -97,6 +98,36 @@ final class TextTest {
         Check.same("bytes above 127 are no TOKENS", x.feed(0x80ff0000, 0, 0, 0, 0), 20);
         Check.same("library()", x.library(), -1);
         Check.same("fault()", x.fault(), 1);
+    }
+
+    /** What is behind the end is gone, and what comes later comes behind what was left. */
+    private static void tapeCutOff() {
+        SequelShelf x = new SequelShelf();
+        // 'book ab 1 1;reader p' and then, behind 'book a', ' 7 2;fine 3;' and blanks.
+        Check.same("feed", x.feed(0x626f6f6b, 0x20616220, 0x3120313b, 0x72656164, 0x65722070), 20);
+        Check.yes("end(6)", x.end(6));
+        Check.no("end(7)", x.end(7));
+        Check.no("end(20)", x.end(20));
+        Check.yes("end(6) again", x.end(6));
+        Check.same("feed", x.feed(0x20372032, 0x3b66696e, 0x6520333b, 0x20202020, 0x20202020), 26);
+        Check.same("library()", x.library(), 2);
+        Check.same("pages", x.book(0, 0), 7);
+        Check.same("copies", x.book(0, 1), 2);
+        Check.same("count(3)", x.count(3), 3);
+        Check.same("count(2)", x.count(2), 0);
+        Check.no("end(1): the tape is empty", x.end(1));
+        Check.yes("end(0)", x.end(0));
+        // A call that is refused puts none of its bytes there: 'fine 1;' is ahead of blanks alone.
+        for (int i = 0; i < 47; i++) {
+            x.feed(0x20202020, 0x20202020, 0x20202020, 0x20202020, 0x20202020);
+        }
+        Check.yes("end(881)", x.end(881));
+        Check.same("feed", x.feed(0x66696e65, 0x20313b20, 0x20202020, 0x20202020, 0x20202020), 901);
+        Check.same("feed", x.feed(0x20202020, 0x20202020, 0x20202020, 0x20202020, 0x20202020), 921);
+        Check.same("feed beyond", x.feed(0x23232323, 0x23232323, 0x23232323, 0x23232323, 0x23232323), -1);
+        Check.yes("end(900)", x.end(900));
+        Check.same("library()", x.library(), 1);
+        Check.same("count(3)", x.count(3), 1);
     }
 
     private static void goodLibraries() {
