@@ -48,7 +48,8 @@ final class Check {
     static int four(byte[] bytes, int at) {
         int sum = 0;
         for (int i = at; i < at + 4; i++) {
-            sum = sum << 8 | (i < bytes.length ? bytes[i] & 255 : 0);
+            // What end() cuts off must not count: a letter would spoil texts, and pairs, too.
+            sum = sum << 8 | (i < bytes.length ? bytes[i] & 255 : 'z');
         }
         return sum;
     }
